@@ -42,7 +42,10 @@ public final class Promise03HillsTest {
         x.row(0, 1);
         x.seed(123);
         x.keep(0);
+        x.cross(0, 2, 3);
         x.keep(1);
+        Check.due("bridge(0, 1) before", x.bridge(0, 1), Check.set(2));
+        Check.due("bridge(1, 1) before", x.bridge(1, 1), Check.set(3));
         Check.due("bridge(0, 2) before", x.bridge(0, 2), Check.set(0));
         Check.feed(x, Check.HILLS);
         Check.due("hills() again", x.hills(), 5);
@@ -105,6 +108,9 @@ public final class Promise03HillsTest {
         }
         Check.due("whom 2 knows of", x.man(2, 3), Check.set(0, 1, 3, 4, 5));
         Check.sound(" ".repeat(500 - all.length()) + all, 6);
+        Check.told(x, all);
+        Check.told(x, all);
+        Check.due("told(2) of the same text again", x.told(2), 6);
     }
 
     private static void words() {
@@ -116,6 +122,14 @@ public final class Promise03HillsTest {
         Check.faulty("years 5;", 1, 0);
         Check.faulty("yea 5;", 1, 0);
         Check.faulty("ye ar 5;", 1, 0);
+        Check.faulty("bear 5;", 1, 0);
+        Check.faulty("box 1 1;", 1, 0);
+        Check.faulty("oxz 1 1;", 1, 0);
+        Check.faulty("oxa 1 1;", 1, 0);
+        Check.faulty("ox`1 1;", 1, 2);
+        Check.faulty("ox{1 1;", 1, 2);
+        Check.faulty("ox 1/1;", 1, 4);
+        Check.faulty("ox 1:1;", 1, 4);
         Check.faulty("yearbridge 5;", 1, 0);
         Check.faulty("o", 1, 0);
         Check.faulty("ox", 1, 2);
@@ -148,6 +162,7 @@ public final class Promise03HillsTest {
         Check.faulty("ox 1 1;year 5;", 1, 7);
         Check.faulty("bridge 1;year 5;", 1, 9);
         Check.faulty("man 1 1;man 1 1;knows 0 1;year 1;", 1, 26);
+        Check.faulty("man 1 1;man 1 1;knows 0 1;knows 1 0;year 1;", 1, 36);
     }
 
     private static void numbers() {

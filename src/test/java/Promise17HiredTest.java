@@ -47,6 +47,7 @@ public final class Promise17HiredTest {
 
     private static void remembered() {
         HeavierToCome x = Check.made("bridge 1;bridge 1;man 5 0;man 6 0;knows 0 1;ox 9 0;");
+        due("ahead of the LIE", x, 0, 0, 0);
         x.cross(0, 0, 1);
         x.evening();
         due("0 is REMEMBERED, no OX helps", x, 0, Check.NONE, Check.NONE);

@@ -20,6 +20,7 @@ public final class Promise19WhomTest {
         Check.due("of like ones the least", Check.made("bridge 1;man 1 9;man 2 7;man 3 7;man 4 6;knows 0 3,2,1;").whom(0, 0), 1);
         Check.due("the last one", Check.made("bridge 1;man 1 9;man 2 7;man 3 7;man 4 8;knows 0 3,2,1;").whom(0, 0), 3);
         Check.due("one who never comes", Check.made("bridge 1;man 1 9;man 2 0;man 3 0;knows 0 2,1;").whom(0, 0), 1);
+        Check.due("the first one", Check.made("bridge 1;man 3 9;man 1 7;man 2 8;knows 1 0,2;").whom(0, 1), 0);
         Check.due("he himself is not one", Check.made("bridge 1;man 1 100;man 2 0;knows 0 1;").whom(0, 0), 1);
     }
 

@@ -9,12 +9,15 @@ public final class Promise25WrongTest {
         due("0 NAMES who does come, 2 does not", x, 1, 0, 1, 2, 3, 1, 3);
         due("who NAMES one who is OVER by then", x, 1, 3, -1, 2, 3);
         due("who is EATEN tells ahead of who LIES", x, 2, 0, 1, 2, 3, 4, -1);
+        due("who NAMES one who is OVER by then, behind one who LIES", x, 2, 0, 1, 3, -1, 2, 3);
         due("one twice: he is OVER by then", x, 2, 0, 1, 1, 3, 0, 1, 3, -1);
+        due("one twice, one behind the other", x, 1, 0, 1, 0, 1, 1, 3, 3, -1);
         due("whom he does not know", x, 0, 0, 3, 3, -1);
         due("a lighter one", x, 0, 2, 0, 0, 1, 3, -1);
         due("alone with a heavier one", x, 1, 3, -1, 2, -1);
         due("the heaviest alone", x, Check.NONE, 3, -1);
         due("behind, but not next to him", x, Check.NONE, 0, 1, 2, 3, 1, 3, 3, -1);
+        traveller0IsNamed();
         now();
         remembered();
         refusals();
@@ -59,6 +62,15 @@ public final class Promise25WrongTest {
         x.row(3, -1);
         x.cross(0, 2, 3);
         Check.due("who crosses is OVER", x.wrong(0), 0);
+    }
+
+    private static void traveller0IsNamed() {
+        HeavierToCome x = Check.made("bridge 1;man 9 0;man 1 0;man 2 0;knows 1 0,2;knows 2 0;");
+        x.row(1, 2);
+        x.row(2, 0);
+        Check.due("0 does not come", x.wrong(0), 1);
+        x.row(0, -1);
+        Check.due("0 comes", x.wrong(0), Check.NONE);
     }
 
     private static void remembered() {

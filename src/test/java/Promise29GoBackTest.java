@@ -1,6 +1,7 @@
 public final class Promise29GoBackTest {
     public static void main(String[] args) {
         whatIsKept();
+        namesAreKept();
         liesAndYears();
         whatIsNotKept();
         again();
@@ -35,6 +36,24 @@ public final class Promise29GoBackTest {
         Check.due("man(4, 3)", x.man(4, 3), Check.set(1));
         Check.due("seed(0)", x.seed(0), 44);
         Check.due("evening(): 0 LIED", x.evening(), Check.set(0));
+    }
+
+    /** He NAMED another one there on another DAY. */
+    private static void namesAreKept() {
+        HeavierToCome x = Check.made(Check.HILLS);
+        x.cross(0, 0, 2);
+        x.cross(0, 2, 3);
+        x.keep(0);
+        x.evening();
+        x.cross(0, 0, 1);
+        x.keep(1);
+        Check.due("named(0, 0)", x.named(0, 0), 1);
+        x.goBack(0);
+        Check.due("named(0, 0) of IMAGE 0", x.named(0, 0), 2);
+        Check.due("named(0, 2) of IMAGE 0", x.named(0, 2), 3);
+        x.goBack(1);
+        Check.due("named(0, 0) of IMAGE 1", x.named(0, 0), 1);
+        Check.due("named(0, 2) of IMAGE 1", x.named(0, 2), Check.NOT);
     }
 
     /** LIES, who went by himself when. */
