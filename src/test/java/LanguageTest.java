@@ -36,6 +36,7 @@ public final class LanguageTest {
         Check.due("signs over 126 in the source", count("[^\\x00-\\x7e]", source), 0);
         Check.due("'@' in the source", count("@", code), 0);
         Check.due("tops of classes", count("\\bclass\\b", code) <= 12 ? 1 : 0, 1);
+        library(code);
         members();
         for (Class<?> inside : classes()) {
             fields(inside);
@@ -47,6 +48,24 @@ public final class LanguageTest {
 
     private static String withoutTexts(String source) {
         return source.replaceAll("(?s)/\\*.*?\\*/", " ").replaceAll("//[^\n]*", " ").replaceAll("\"[^\"\n]*\"", "\"\"");
+    }
+
+    /** Rule 4: of the library only what the rule lists, as far as the class uses any. */
+    private static void library(String code) {
+        Set<String> allowed = Set.of("System.arraycopy", "Math.max", "Math.min");
+        Matcher found = Pattern.compile("\\b[A-Z]\\w*\\.[a-z]\\w*(?=\\()").matcher(code);
+        while (found.find()) {
+            Check.due(found.group() + " is of the library that is left", allowed.contains(found.group()) ? 1 : 0, 1);
+        }
+        Set<String> made = new TreeSet<>();
+        for (Class<?> inside : classes()) {
+            made.add(inside.getSimpleName());
+        }
+        found = Pattern.compile("\\bnew\\s+(\\w+)").matcher(code);
+        while (found.find()) {
+            String name = found.group(1);
+            Check.due("new " + name, made.contains(name) || name.equals("int") || name.equals("byte") ? 1 : 0, 1);
+        }
     }
 
     private static int count(String pattern, String text) {

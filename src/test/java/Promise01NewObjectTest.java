@@ -21,6 +21,8 @@ public final class Promise01NewObjectTest {
         Check.due("told(5)", x.told(5), 1);
         constants();
         twoObjects();
+        asHillsOfNoText();
+        fiveHundredAndTwelveCalls();
         Check.end("promise 1");
     }
 
@@ -41,5 +43,35 @@ public final class Promise01NewObjectTest {
         Check.due("told(2) of another", other.told(2), 0);
         Check.due("seed(0) of another", other.seed(0), 0);
         Check.due("bridge(0, 1) of one", one.bridge(0, 1), Check.set(3));
+    }
+
+    /** "No BRIDGES, no TRAVELLERS; a YEAR of 10 days": an empty text tells no others. */
+    private static void asHillsOfNoText() {
+        Twins.alike("a new object and HILLS of no text", HeavierToCome::new, () -> Check.made(""));
+    }
+
+    /** "An object is used for at most 512 calls": the last one of them is answered as the first. */
+    private static void fiveHundredAndTwelveCalls() {
+        HeavierToCome days = new HeavierToCome();
+        for (int call = 1; call <= 511; call++) {
+            days.evening();
+        }
+        Check.due("told(5), the 512th call", days.told(5), 511);
+        HeavierToCome text = new HeavierToCome();
+        for (int call = 1; call <= 500; call++) {
+            Check.due("feed(1), the call " + call, text.feed(1, ' '), call);
+        }
+        for (int call = 501; call <= 511; call++) {
+            Check.due("feed(1), the call " + call, text.feed(1, ' '), Check.FULL);
+        }
+        Check.due("hills(), the 512th call", text.hills(), 0);
+        HeavierToCome drawn = new HeavierToCome();
+        // Three calls of feed, one of hills.
+        Check.feed(drawn, "bridge 1;man 5 0;");
+        drawn.hills();
+        for (int call = 5; call <= 511; call++) {
+            drawn.drift(99);
+        }
+        Check.due("told(5), the 512th call", drawn.told(5), 507 * 99);
     }
 }

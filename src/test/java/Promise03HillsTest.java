@@ -2,7 +2,10 @@ public final class Promise03HillsTest {
     public static void main(String[] args) {
         soundTexts();
         allIsNew();
+        allIsAsOfANewObject();
         aFaultChangesNothing();
+        eachFaultChangesNothing();
+        theTextIsEmptyThen();
         mostOfAll();
         words();
         numbers();
@@ -94,6 +97,62 @@ public final class Promise03HillsTest {
         Check.due("ox(0, 1)", x.ox(0, 1), 30);
         Check.due("bridge(0, 0)", x.bridge(0, 0), 2);
         Check.due("goBack(1)", x.goBack(1), 1);
+    }
+
+    /** Whatever was so before, new HILLS are those of a new object with the same SEED. */
+    private static void allIsAsOfANewObject() {
+        String[] texts = {"", "   ", Check.HILLS, "bridge 1;", "man 5 50;man 6 60;man 7 70;",
+            "year 2;bridge 1;bridge 2;man 5 50;man 6 60;man 7 70;knows 0 1,2;knows 1 2;ox 9 9;"};
+        for (String text : texts) {
+            Twins.alike("HILLS of '" + text + "'", () -> told(States.rich(), text), () -> told(new HeavierToCome(), text));
+        }
+    }
+
+    /** New HILLS, behind whatever THE TEXT had so far; THE SEED is 77, as that of States.rich is. */
+    private static HeavierToCome told(HeavierToCome x, String text) {
+        Check.feed(x, "!");
+        x.hills();
+        x.seed(77);
+        Check.told(x, text);
+        return x;
+    }
+
+    /** "all else is as it was": texts that are sound far on, and then have one of the four FAULTS. */
+    private static void eachFaultChangesNothing() {
+        String sound = "year 7;bridge 3;man 1 1;man 2 2;man 3 3;knows 0 1,2;knows 1 0;ox 4 4;";
+        String[] faulty = {"!", "year 1;", "man 5", "bridge 10;", "man 0 0;", "knows 9 0;", "knows 0 9;", "ox 1000 1;",
+            "knows 0 0;", "knows 0 1;", "knows 2 0,0;", "man 1 1;".repeat(4), "bridge 1;".repeat(5), "ox 1 1;".repeat(5)};
+        int[] number = {1, 1, 1, 2, 2, 2, 2, 2, 4, 4, 4, 3, 3, 3};
+        for (int k = 0; k < faulty.length; k++) {
+            String text = sound + faulty[k];
+            int answer = -10 - number[k];
+            Twins.alikeButForTheText("a FAULT of '" + text + "'", () -> faulty(States.rich(), text, answer), States::rich);
+            Twins.alikeButForTheText("a FAULT of '" + text + "'", () -> faulty(new HeavierToCome(), text, answer), HeavierToCome::new);
+        }
+    }
+
+    private static HeavierToCome faulty(HeavierToCome x, String text, int answer) {
+        // What is in THE TEXT already is one clause, behind which no 'year' could stand.
+        if (x.told(4) > 0) {
+            Check.feed(x, "!");
+            x.hills();
+        }
+        Check.feed(x, text);
+        Check.due("hills() of '" + text + "'", x.hills(), answer);
+        return x;
+    }
+
+    /** "(it is empty then, with a FAULT, too)". */
+    private static void theTextIsEmptyThen() {
+        HeavierToCome x = new HeavierToCome();
+        for (String text : new String[] {"year 9;", "year 0;", "goat", " ", " ".repeat(500), "man 1 1;".repeat(7), "year 9;year 9;"}) {
+            Check.feed(x, text);
+            Check.due("told(4) ahead of hills()", x.told(4), text.length());
+            x.hills();
+            Check.due("told(4) behind hills() of '" + text + "'", x.told(4), 0);
+            Check.due("feed(1) behind it", x.feed(1, ' '), 1);
+            Check.due("hills() of the blank", x.hills(), 0);
+        }
     }
 
     private static void mostOfAll() {
