@@ -8,6 +8,12 @@ final class Check {
             + "knows 0 2,1;knows 2 3;knows 1 3,4;knows 4 1;"
             + "ox 100 30;ox 80 10;ox 75 9;";
 
+    /** As many as may be: 6 TRAVELLERS, each heavier than those ahead, who know of the next and of 5; 5 BRIDGES, 5 OXEN. */
+    static final String MOST_HILLS = "year 2;bridge 0;bridge 1;bridge 2;bridge 3;bridge 9;"
+            + "man 10 100;man 20 100;man 30 100;man 40 100;man 50 100;man 60 100;"
+            + "knows 0 1,5;knows 1 2,5;knows 2 3,5;knows 3 4,5;knows 4 5;"
+            + "ox 100 5;ox 100 4;ox 100 3;ox 100 2;ox 61 1;";
+
     static final int NONE = -1;
     static final int UNKNOWN = -1000000001;
     static final int OUTSIDE = -1000000002;
@@ -118,6 +124,26 @@ final class Check {
         int seed = x.seed(0);
         x.seed(seed);
         return all.append(x.odds()).append(' ').append(seed).toString();
+    }
+
+    /** In MOST_HILLS 0 to 4 go over a BRIDGE by the NAME of 5. */
+    static void crossNaming5(HeavierToCome x, int b) {
+        for (int t = 0; t < 5; t++) {
+            due("cross(" + b + ", " + t + ", 5)", x.cross(b, t, 5), 1);
+        }
+    }
+
+    /** In MOST_HILLS 0 to 4 go over a BRIDGE, each by the NAME of the next. */
+    static void crossNamingTheNext(HeavierToCome x, int b) {
+        for (int t = 0; t < 5; t++) {
+            due("cross(" + b + ", " + t + ", " + (t + 1) + ")", x.cross(b, t, t + 1), 1);
+        }
+    }
+
+    /** In MOST_HILLS 5 is EATEN, for he NAMES one who is lighter. */
+    static void eat5(HeavierToCome x, int b) {
+        x.know(5, 0, true);
+        due("cross(" + b + ", 5, 0)", x.cross(b, 5, 0), 0);
     }
 
     /** A SET of these. */

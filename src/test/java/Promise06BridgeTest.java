@@ -12,6 +12,7 @@ public final class Promise06BridgeTest {
             remembered(m);
         }
         latestLie();
+        severalAtEachBridge();
         refusals();
         Check.end("promise 6");
     }
@@ -62,6 +63,22 @@ public final class Promise06BridgeTest {
         Check.due("bridge(0, 2) two DAYS behind it", x.bridge(0, 2), 1);
         x.evening();
         Check.due("bridge(0, 2) three DAYS behind it", x.bridge(0, 2), 0);
+    }
+
+    private static void severalAtEachBridge() {
+        int five = Check.set(0, 1, 2, 3, 4);
+        for (int lied = 0; lied < 5; lied++) {
+            HeavierToCome x = Check.made(Check.MOST_HILLS);
+            Check.crossNaming5(x, lied);
+            Check.due("bridge(" + lied + ", 1)", x.bridge(lied, 1), five);
+            x.evening();
+            for (int b = 0; b < 5; b++) {
+                Check.due("bridge(" + b + ", 1), LIES at " + lied, x.bridge(b, 1), 0);
+                Check.due("bridge(" + b + ", 2), LIES at " + lied, x.bridge(b, 2), b == lied ? five : 0);
+            }
+            x.cross(lied, 5, -1);
+            Check.due("bridge(" + lied + ", 1) of 5 alone", x.bridge(lied, 1), Check.set(5));
+        }
     }
 
     private static void refusals() {

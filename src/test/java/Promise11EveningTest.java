@@ -15,6 +15,7 @@ public final class Promise11EveningTest {
         theNamedIsGone();
         theLiarIsGone();
         fiveBridges();
+        severalAtOneBridge();
         HeavierToCome none = new HeavierToCome();
         Check.due("evening() without HILLS", none.evening(), 0);
         Check.due("THE DAY", none.told(5), 1);
@@ -71,5 +72,17 @@ public final class Promise11EveningTest {
         }
         Check.due("evening()", x.evening(), 0);
         Check.due("bridge(4, 2) behind M days", x.bridge(4, 2), 0);
+    }
+
+    private static void severalAtOneBridge() {
+        for (int b = 0; b < 5; b++) {
+            HeavierToCome x = Check.made(Check.MOST_HILLS);
+            Check.crossNaming5(x, b);
+            Check.crossNamingTheNext(x, (b + 1) % 5);
+            x.cross((b + 1) % 5, 5, -1);
+            Check.due("evening(): 0 to 4 LIED at " + b, x.evening(), Check.set(0, 1, 2, 3, 4));
+            Check.crossNamingTheNext(x, (b + 1) % 5);
+            Check.due("evening(): of those at " + (b + 1) % 5 + " 4 LIED", x.evening(), Check.set(4));
+        }
     }
 }

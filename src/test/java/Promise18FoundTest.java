@@ -4,6 +4,7 @@ public final class Promise18FoundTest {
         nobodyIsOneToo();
         threeBridges();
         namesOfTheDead();
+        severalAtEachBridge();
         refusals();
         Check.end("promise 18");
     }
@@ -93,6 +94,31 @@ public final class Promise18FoundTest {
         x.cross(2, 0, -1);
         Check.due("told(6)", x.told(6), Check.set(1, 2));
         Check.due("found(0): those who live no more, too", x.found(0), Check.set(0));
+    }
+
+    private static void severalAtEachBridge() {
+        int five = Check.set(0, 1, 2, 3, 4);
+        for (int b = 0; b < 5; b++) {
+            for (int c = 0; c < 5; c++) {
+                if (b == c) {
+                    continue;
+                }
+                HeavierToCome x = Check.made(Check.MOST_HILLS);
+                Check.crossNaming5(x, b);
+                Check.crossNamingTheNext(x, c);
+                Check.due("found(0): 4 NAMED 5 at " + b + " and " + c, x.found(0), Check.set(0, 1, 2, 3));
+                Check.due("found(1) at " + b + " and " + c + ", all live", x.found(1), 0);
+                x.cross(b, 5, -1);
+                Check.eat5(x, c);
+                Check.due("found(0): 5 at " + b + " alone", x.found(0), Check.set(0, 1, 2, 3));
+                Check.due("found(1) at " + b + ": all NAMED 5", x.found(1), five);
+            }
+            HeavierToCome x = Check.made(Check.MOST_HILLS);
+            Check.crossNamingTheNext(x, b);
+            Check.eat5(x, b);
+            Check.due("found(1) at " + b + ": 4 alone NAMED 5", x.found(1), Check.set(4));
+            Check.due("found(0) of one BRIDGE", x.found(0), 0);
+        }
     }
 
     private static void refusals() {
